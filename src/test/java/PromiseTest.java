@@ -255,6 +255,8 @@ public final class PromiseTest {
     due("least beside 1", x.plan(1, 2, 0, 1, 21), 0);
     due("least beside 4", x.plan(1, 2, 0, 2, 24), 3);
     due("least beside none", x.plan(1, 2, 0, 2, 25), NONE);
+    due("least beside 0", x.plan(1, 2, 0, 2, 20), 0);
+    due("0 not ready by a shorter plan", x.plan(1, 2, 0, 1, 10), NONE);
     x.sign(2, 8);
     plan(x, 0, 3, 106 + 25, NONE, 5, 31);
     due("3 ready", x.plan(1, 2, 0, 3, 13), 131);
@@ -327,6 +329,7 @@ public final class PromiseTest {
     due("no sort", x.line(1, 2, 9, 1), UNKNOWN);
     x.lay(2, 0);
     due("none of it", x.line(1, 2, 1, 4), 2);
+    due("the first letter is short", x.line(1, 2, 3, 3), 0);
     x.sheet(2, 1, 60);
     due("sixty letters", x.line(2, 1, 0, 60), 5);
   }
@@ -348,6 +351,8 @@ public final class PromiseTest {
     due("no sign", x.soon(0, 1, 2, 3, 1), UNKNOWN);
     due("none", x.soon(0, 1, 2, 0, 3), 0);
     // {0 2} {1 3 4}; {0 2} {1} {3 4}; {0} {2} {1} {3 4}
+    due("0", x.soon(1, 1, 2, 0, 3), 157);
+    due("0 by a shorter plan", x.soon(1, 1, 2, 0, 2), NONE);
     due("1", x.soon(2, 1, 2, 0, 3), 106);
     due("0 and 2", x.soon(5, 1, 2, 0, 3), 106 + 51);
     due("0, 1, 2", x.soon(7, 1, 2, 0, 3), 157);
