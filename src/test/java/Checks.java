@@ -1,7 +1,9 @@
 /** Counts what was looked at and what was wrong; helpers that lay texts and rows on sheets. */
 final class Checks {
+  private static int tests = 0;
   private static int looked = 0;
   private static int wrong = 0;
+  private static String inTest = "";
 
   private Checks() {
   }
@@ -10,7 +12,7 @@ final class Checks {
     looked++;
     if (got != want) {
       wrong++;
-      System.out.println(what + " answered " + got + ", due is " + want);
+      System.out.println(inTest + what + " answered " + got + ", due is " + want);
     }
   }
 
@@ -18,18 +20,40 @@ final class Checks {
     due(what, so ? 1 : 0, 1);
   }
 
+  /** One test by its name; what the class throws is wrong, and ends this test alone. */
+  static void test(String name, Runnable body) {
+    tests++;
+    int before = wrong;
+    inTest = "  ";
+    try {
+      body.run();
+    } catch (RuntimeException | StackOverflowError thrown) {
+      wrong++;
+      System.out.println(inTest + "threw " + thrown);
+    }
+    inTest = "";
+    if (wrong != before) {
+      System.out.println("BROKEN: " + name);
+    }
+  }
+
   static int wrongSoFar() {
     return wrong;
   }
 
   static void end(String name) {
-    System.out.println(name + ": " + looked + " looked at, " + wrong + " wrong");
+    String inTests = tests == 0 ? "" : tests + " tests, ";
+    System.out.println(name + ": " + inTests + looked + " looked at, " + wrong + " wrong");
     System.exit(wrong == 0 ? 0 : 1);
   }
 
   /** A row of ints on a SHEET. */
   static void row(FloorType x, int sheet, int... cells) {
-    x.sheet(sheet, 2, cells.length);
+    rowOf(x, sheet, 2, cells);
+  }
+
+  static void rowOf(FloorType x, int sheet, int lane, int... cells) {
+    x.sheet(sheet, lane, cells.length);
     for (int i = 0; i < cells.length; i++) {
       x.put(sheet, i, cells[i]);
     }
