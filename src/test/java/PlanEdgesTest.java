@@ -327,7 +327,7 @@ public final class PlanEdgesTest {
       FloorType x = planned("t;p010;p010/01", 0);
       Checks.due("none", whole(x, 1, 1), NONE);
     });
-    Checks.test("IDLE: the last of twenty", () -> {
+    Checks.test("IDLE: the latest that can be, where every PASS ahead parts a HEAP", () -> {
       // five PASSES part at the most: so the sixth is the latest IDLE that can be
       FloorType x = planned(DEAREST, 4, 3, 2, 1, 0, 0, 0, 0, 0, 0, 0, 0, 0, 0, 0, 0, 0, 0, 0, 0);
       Checks.due("5", whole(x, 20, 1), 5);

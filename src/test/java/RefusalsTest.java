@@ -26,6 +26,7 @@ public final class RefusalsTest {
     cells();
     copies();
     parts();
+    farOff();
     asked();
     Checks.end("RefusalsTest");
   }
@@ -328,6 +329,31 @@ public final class RefusalsTest {
     refused("as: kind below", RefusalsTest::some, x -> x.as(2, -1), OUTSIDE);
     faulty("as: CAST", RefusalsTest::some, x -> x.as(1, 2), CAST);
     silent("many: what", RefusalsTest::some, x -> x.many(4), OUTSIDE);
+  }
+
+  /** The least and the greatest int in place of each number that is told by its bounds. */
+  private static void farOff() {
+    for (int v : new int[] {Integer.MIN_VALUE, HIGH}) {
+      String of = " " + v;
+      refused("floor: SHEET" + of, RefusalsTest::some, x -> x.floor(v, 2, 0, 1), UNKNOWN);
+      refused("floor: LANE" + of, RefusalsTest::some, x -> x.floor(2, v, 0, 1), OUTSIDE);
+      faulty("floor: i" + of, RefusalsTest::some, x -> x.floor(2, 2, v, 1), INDEX);
+      faulty("floor: n" + of, RefusalsTest::some, x -> x.floor(2, 2, 1, v), v < 0 ? SIZE : INDEX);
+      refused("plan: SHEET" + of, RefusalsTest::some, x -> x.plan(v, 2, 0, 1, 0), UNKNOWN);
+      refused("plan: LANE" + of, RefusalsTest::some, x -> x.plan(2, v, 0, 1, 0), OUTSIDE);
+      faulty("plan: i" + of, RefusalsTest::some, x -> x.plan(2, 2, v, 1, 0), INDEX);
+      refused("plan: n" + of, RefusalsTest::some, x -> x.plan(2, 2, 0, v, 0), OUTSIDE);
+      refused("plan: what" + of, RefusalsTest::some, x -> x.plan(2, 2, 0, 1, v), OUTSIDE);
+      refused("line: SHEET" + of, RefusalsTest::some, x -> x.line(v, 2, 0, 1), UNKNOWN);
+      refused("line: LANE" + of, RefusalsTest::some, x -> x.line(2, v, 0, 1), OUTSIDE);
+      faulty("line: i" + of, RefusalsTest::some, x -> x.line(2, 2, v, 1), INDEX);
+      refused("line: n" + of, RefusalsTest::some, x -> x.line(2, 2, 0, v), OUTSIDE);
+      refused("soon: set" + of, RefusalsTest::some, x -> x.soon(v, 2, 2, 0, 1), OUTSIDE);
+      refused("soon: SHEET" + of, RefusalsTest::some, x -> x.soon(0, v, 2, 0, 1), UNKNOWN);
+      refused("soon: LANE" + of, RefusalsTest::some, x -> x.soon(0, 2, v, 0, 1), OUTSIDE);
+      faulty("soon: i" + of, RefusalsTest::some, x -> x.soon(0, 2, 2, v, 1), INDEX);
+      refused("soon: n" + of, RefusalsTest::some, x -> x.soon(0, 2, 2, 0, v), OUTSIDE);
+    }
   }
 
   /** Calls that only ask change nothing either. */
